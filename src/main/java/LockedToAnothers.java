@@ -254,7 +254,7 @@ public final class LockedToAnothers {
             if (can == 0) {
                 break;
             }
-            int least = Integer.numberOfTrailingZeros(can);
+            int least = leastOf(can);
             digits = digits * 10 + least + 1;
             gone |= 1 << least;
         }
@@ -689,6 +689,16 @@ public final class LockedToAnothers {
         return (bits >> i & 1) != 0;
     }
 
+    /** The lowest of some bits; 0, if there is none. */
+    private static int leastOf(int bits) {
+        for (int i = 0; i < Rail.MOST_THINGS; i++) {
+            if (has(bits, i)) {
+                return i;
+            }
+        }
+        return 0;
+    }
+
     private static boolean isByte(int b) {
         return b >= 0 && b <= MOST_BYTE;
     }
@@ -905,7 +915,7 @@ public final class LockedToAnothers {
         final int[] owners = new int[MOST_LOCKS];
         final int[] sorts = new int[MOST_LOCKS];
         final int[] sets = new int[MOST_LOCKS];
-        // Of each lock the things it goes through and is of a sort for; kept, as sets of saws ask for it a thousand times.
+        // Of each lock the things it goes through and is of a sort for; kept, as saws ask for it a thousand times.
         private final int[] grips = new int[MOST_LOCKS];
 
         boolean isThing(int t) {
@@ -1025,7 +1035,7 @@ public final class LockedToAnothers {
                     continue;
                 }
                 int there = sets[l] & ~goneThen;
-                boolean severalThere = (there & there - 1) != 0;
+                boolean severalThere = (there & (there - 1)) != 0;
                 if (severalThere) {
                     held |= grips[l] & ~(1 << owners[l]);
                 }
@@ -1242,7 +1252,9 @@ public final class LockedToAnothers {
             for (int i = 0; i < FIRST_LAW.length(); i++) {
                 tape.append(FIRST_LAW.charAt(i));
             }
-            takeTape();
+            if (tape.read(steps[0], ends[0])) {
+                texts = 1;
+            }
         }
 
         /** The tape becomes a text, if it has no fault and there is room; it is empty then. */
@@ -1325,7 +1337,7 @@ public final class LockedToAnothers {
         // The tokens: a sign is its byte, a key KEYS and its place among the words.
         private static final int KEYS = 300, OR = 303, AND = 304, NOT = 305;
         private static final int NAME = 306, NUMBER = 307, END = 308, NOTHING = 309;
-        private static final int PARTS = 3, KEY_WORDS = 6, MOST_OPEN = 5, MOST_DIGITS = 4;
+        private static final int PARTS = 3, KEY_WORDS = 6, MOST_OPEN = 5, MOST_DIGITS = 4, NOTS = 2, ONES = 5;
         private static final String WORDS = "takes saws minds or and not more sort hour thing many kind ";
         private static final String SIGNS = "();+-*<=";
 
@@ -1354,7 +1366,7 @@ public final class LockedToAnothers {
             advance();
             for (int part = 0; part < PARTS; part++) {
                 demand(KEYS + part);
-                either(0);
+                expression(0, 0);
                 demand(';');
                 toEnds[part] = written;
             }
@@ -1386,62 +1398,35 @@ public final class LockedToAnothers {
             }
         }
 
-        private void either(int open) {
-            both(open);
-            for (int i = 0; i < MOST_BYTES && token == OR; i++) {
-                advance();
-                both(open);
-                write(EITHER);
-            }
-        }
-
-        private void both(int open) {
-            not(open);
-            for (int i = 0; i < MOST_BYTES && token == AND; i++) {
-                advance();
-                not(open);
-                write(BOTH);
-            }
-        }
-
-        private void not(int open) {
-            if (token != NOT) {
-                comparison(open);
-            } else if (open >= MOST_OPEN) {
-                refuse();
-            } else {
-                advance();
-                not(open + 1);
-                write(INVERT);
-            }
-        }
-
-        private void comparison(int open) {
-            sum(open);
-            if (token == '<' || token == '=') {
-                int step = token == '<' ? LESS : SAME;
-                advance();
-                sum(open);
-                write(step);
-            }
-        }
-
-        private void sum(int open) {
-            term(open);
-            for (int i = 0; i < MOST_BYTES && (token == '+' || token == '-'); i++) {
-                int step = token == '+' ? PLUS : MINUS;
-                advance();
-                term(open);
-                write(step);
-            }
-        }
-
-        private void term(int open) {
-            one(open);
-            for (int i = 0; i < MOST_BYTES && token == '*'; i++) {
-                advance();
+        /** Reads an E (rank 0), or what stands in one: an AND (1), a NOT (2), a SUM (3), a TERM (4), a ONE (5). */
+        private void expression(int rank, int open) {
+            if (rank >= ONES) {
                 one(open);
-                write(TIMES);
+            } else if (rank == NOTS && token == NOT && open < MOST_OPEN) {
+                advance();
+                expression(NOTS, open + 1);
+                write(INVERT);
+            } else {
+                expression(rank + 1, open);
+                int most = rank == NOTS ? 1 : MOST_BYTES;
+                int step = joiner(rank);
+                for (int i = 0; i < most && step != 0; i++) {
+                    advance();
+                    expression(rank + 1, open);
+                    write(step);
+                    step = joiner(rank);
+                }
+            }
+        }
+
+        /** The step of the token looked at, if it joins what stands in a rank, else 0. */
+        private int joiner(int rank) {
+            switch (rank) {
+                case 0: return token == OR ? EITHER : 0;
+                case 1: return token == AND ? BOTH : 0;
+                case NOTS: return token == '<' ? LESS : token == '=' ? SAME : 0;
+                case 3: return token == '+' ? PLUS : token == '-' ? MINUS : 0;
+                default: return token == '*' ? TIMES : 0;
             }
         }
 
@@ -1455,7 +1440,7 @@ public final class LockedToAnothers {
                 write(NEGATE);
             } else if (token == '(' && open < MOST_OPEN) {
                 advance();
-                either(open + 1);
+                expression(0, open + 1);
                 demand(')');
             } else {
                 refuse();
@@ -1471,18 +1456,16 @@ public final class LockedToAnothers {
                 place++;
             }
             behind = place;
-            token = place < size ? scan(bytes[place]) : END;
-        }
-
-        private int scan(int b) {
-            if (isIn(b, 'a', 'z')) {
-                return scanWord();
+            if (place >= size) {
+                token = END;
+            } else if (isIn(bytes[place], 'a', 'z')) {
+                token = scanWord();
+            } else if (isIn(bytes[place], '0', '9')) {
+                token = scanNumber();
+            } else {
+                behind = place + 1;
+                token = SIGNS.indexOf((char) bytes[place]) >= 0 ? bytes[place] : NOTHING;
             }
-            if (isIn(b, '0', '9')) {
-                return scanNumber();
-            }
-            behind = place + 1;
-            return SIGNS.indexOf((char) b) >= 0 ? b : NOTHING;
         }
 
         private int scanWord() {
