@@ -1267,6 +1267,7 @@ public final class LockedToAnothers {
         }
 
         int says(int text, int part, int t, int l, int hour) {
+            // In the order in which Reader.WORDS has them.
             names[0] = rail.mores[t];
             names[1] = l == NO_LOCK ? 0 : rail.sorts[l];
             names[2] = hour;
@@ -1337,7 +1338,9 @@ public final class LockedToAnothers {
         // The tokens: a sign is its byte, a key KEYS and its place among the words.
         private static final int KEYS = 300, OR = 303, AND = 304, NOT = 305;
         private static final int NAME = 306, NUMBER = 307, END = 308, NOTHING = 309;
-        private static final int PARTS = 3, KEY_WORDS = 6, MOST_OPEN = 5, MOST_DIGITS = 4, NOTS = 2, ONES = 5;
+        private static final int PARTS = 3, KEY_WORDS = 6, MOST_OPEN = 5, MOST_DIGITS = 4;
+        // The ranks: an E joins ANDs by or, an AND NOTs by and, a NOT SUMs, a SUM TERMs, a TERM ONEs.
+        private static final int ORS = 0, ANDS = 1, NOTS = 2, SUMS = 3, ONES = 5;
         private static final String WORDS = "takes saws minds or and not more sort hour thing many kind ";
         private static final String SIGNS = "();+-*<=";
 
@@ -1366,7 +1369,7 @@ public final class LockedToAnothers {
             advance();
             for (int part = 0; part < PARTS; part++) {
                 demand(KEYS + part);
-                expression(0, 0);
+                expression(ORS, 0);
                 demand(';');
                 toEnds[part] = written;
             }
@@ -1398,7 +1401,7 @@ public final class LockedToAnothers {
             }
         }
 
-        /** Reads an E (rank 0), or what stands in one: an AND (1), a NOT (2), a SUM (3), a TERM (4), a ONE (5). */
+        /** Reads an E, or what of a higher rank stands in one, while some ( , not, - are open. */
         private void expression(int rank, int open) {
             if (rank >= ONES) {
                 one(open);
@@ -1422,10 +1425,10 @@ public final class LockedToAnothers {
         /** The step of the token looked at, if it joins what stands in a rank, else 0. */
         private int joiner(int rank) {
             switch (rank) {
-                case 0: return token == OR ? EITHER : 0;
-                case 1: return token == AND ? BOTH : 0;
+                case ORS: return token == OR ? EITHER : 0;
+                case ANDS: return token == AND ? BOTH : 0;
                 case NOTS: return token == '<' ? LESS : token == '=' ? SAME : 0;
-                case 3: return token == '+' ? PLUS : token == '-' ? MINUS : 0;
+                case SUMS: return token == '+' ? PLUS : token == '-' ? MINUS : 0;
                 default: return token == '*' ? TIMES : 0;
             }
         }
@@ -1440,8 +1443,12 @@ public final class LockedToAnothers {
                 write(NEGATE);
             } else if (token == '(' && open < MOST_OPEN) {
                 advance();
-                expression(0, open + 1);
-                demand(')');
+                expression(ORS, open + 1);
+                if (token == ')') {
+                    advance();
+                } else {
+                    refuse();
+                }
             } else {
                 refuse();
             }
